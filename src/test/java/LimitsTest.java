@@ -58,12 +58,12 @@ public final class LimitsTest {
     private static void savedByEveryCall() {
         GroupDesk x = new GroupDesk();
         x.open();
-        for (int i = 0; i < 508; i++) {
+        for (int i = 0; i < 507; i++) {
             x.set(i, i + 1, false);
         }
-        due("the last cell", x.get(507), 508);
+        due("the last cell", x.get(506), 507);
         x.close();
-        due("the last cell, undone", x.get(507), 0);
+        due("the last cell, undone", x.get(506), 0);
         due("the first cell, undone", x.get(0), 0);
     }
 

@@ -350,7 +350,7 @@ public final class PromiseTest {
         x.define(0, false);
         draftAll(x, 30);
         x.shape(false);
-        x.mean(1, 4, 0, false);
+        x.mean(1, 4, 1, false);
         x.define(2, false);
         due("12: first", number(x, 0, 0), 10);
         due("12: last", number(x, 0, 1), 20);
