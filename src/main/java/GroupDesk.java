@@ -204,7 +204,8 @@ public final class GroupDesk {
         }
 
         int numberAt(int row, int k) {
-            return has(row, k) ? numbers[starts[row] + k] : 0;
+            int at = has(row, k) ? starts[row] + k : NONE;
+            return at >= 0 && at < numbers.length ? numbers[at] : 0;
         }
 
         void addTeller(int row) {
@@ -327,6 +328,9 @@ public final class GroupDesk {
 
         private void putBack(int i) {
             int place = savedPlaces[i];
+            if (!isPlace(place)) {
+                return;
+            }
             untell(kinds[place], values[place]);
             kinds[place] = savedKinds[i];
             values[place] = savedValues[i];
